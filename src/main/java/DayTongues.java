@@ -992,6 +992,8 @@ public final class DayTongues {
         private final boolean[] alike;
         private final int[] lengths;
         private final int[] codes;
+        private final int[] wholes;
+        private final int[] commons;
 
         Sayings(Port port) {
             this.port = port;
@@ -1000,6 +1002,8 @@ public final class DayTongues {
             alike = new boolean[SETS];
             lengths = new int[SETS];
             codes = new int[SETS];
+            wholes = new int[MOST_WORDS];
+            commons = new int[MOST_WORDS];
         }
 
         /** A saying without words as yet: it means none of the parts. */
@@ -1060,12 +1064,17 @@ public final class DayTongues {
 
         /** How many sets can be meant alone, with a plain word more (0: none). */
         int surelySaid(int tongue, int more) {
+            int words = Math.min(port.wordsOf(tongue), MOST_WORDS);
+            for (int word = 0; word < words; word++) {
+                wholes[word] = port.whole(tongue, word);
+                commons[word] = port.common(tongue, word);
+            }
             int many = 0;
             for (int set = 0; set < SETS; set++) {
                 int sure = (more | set) == set ? more : 0;
-                for (int word = 0; word < port.wordsOf(tongue); word++) {
-                    if ((port.whole(tongue, word) | set) == set) {
-                        sure |= port.common(tongue, word);
+                for (int word = 0; word < words; word++) {
+                    if ((wholes[word] | set) == set) {
+                        sure |= commons[word];
                     }
                 }
                 if (sure == set) {

@@ -46,8 +46,14 @@ public final class RowsTest {
         Check.due("shorter, of another lane", x.row(7, 0, 3), 3);
         Check.due("lane 0 now", x.set(7, 2, 257), 1);
         Check.due("its end", x.set(7, 3, 1), Check.PLACE);
+        Check.due("item 0", x.set(7, 0, 5), 5);
         Check.due("longer again", x.row(7, 0, 4), 4);
+        Check.due("item 0 is 0 anew", Check.item(x, 7, 0), 0);
         Check.due("item 2 is 0 anew", Check.item(x, 7, 2), 0);
+        Check.due("item 3", x.set(7, 3, 5), 5);
+        Check.due("dropped", x.drop(7), 4);
+        Check.due("laid anew", x.row(7, 0, 4), 4);
+        Check.due("item 3 is 0 anew", Check.item(x, 7, 3), 0);
         Check.due("count(0) in the end", x.count(0), 2);
     }
 
